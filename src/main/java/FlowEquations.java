@@ -345,11 +345,9 @@ public final class FlowEquations {
                 badPlace = place;
                 return ABSENT;
             }
-            int variable = text[place] - 'a';
-            named[owner] = variable;
-            named[place] = variable;
+            named[owner] = text[place] - 'a';
+            named[place] = ABSENT;
             isTerm[place] = false;
-            insideP[place] = insideP[owner];
             return place + 1;
         }
 

@@ -460,9 +460,9 @@ public final class PromisesTest {
     }
 
     private static void checkStartsAnew() {
-        FlowEquations x = ready("a:F1+1Pa", "b:Ccd", "c:!Pc", "d:Wac@c");
+        FlowEquations x = ready("a:F5+1Pa", "b:Ccd", "c:!Pc", "d:Wac@c");
         x.step(6);
-        due("value", x.value(0), 6);
+        due("value", x.value(0), 10);
         due("check again", x.check(), 4);
         infos("checked again", x, 0, -1, 4, 1, 0, 15, 0);
         due("value", x.value(0), NONE);
@@ -472,8 +472,8 @@ public final class PromisesTest {
         due("memory of a P", x.memory(0, 4), 0);
         due("memory of a C", x.memory(1, 0), 0);
         due("step", x.step(1), 1);
-        due("value", x.value(0), 1);
-        due("value", x.value(3), 1);
+        due("value", x.value(0), 5);
+        due("value", x.value(3), 5);
     }
 
     // Promise 9
