@@ -2,15 +2,22 @@
 final class Due {
     private static int wrong = 0;
     private static int asked = 0;
+    private static String subject = "";
 
     private Due() {
+    }
+
+    /** What the next answers are about; it is told with each that is wrong. */
+    static void about(String words) {
+        subject = words;
     }
 
     static void due(String call, long got, long want) {
         asked++;
         if (got != want) {
             wrong++;
-            System.out.println(call + " answered " + got + ", due is " + want);
+            String where = subject.isEmpty() ? "" : "[" + subject + "] ";
+            System.out.println(where + call + " answered " + got + ", due is " + want);
         }
     }
 

@@ -1,14 +1,5 @@
 /** The promises one by one: ordinary inputs, the edges that the document names, wrong inputs. */
-public final class PromisesTest {
-    private static final long NONE = FlowEquations.NONE;
-    private static final int REFUSED = FlowEquations.REFUSED;
-    private static final int FULL = FlowEquations.FULL;
-    private static final int SYNTAX = FlowEquations.SYNTAX;
-    private static final int STATE = FlowEquations.STATE;
-    private static final int DONE = FlowEquations.DONE;
-    private static final String CHARACTERS = "0123456789abcdefghpqrs+-*<=&!?PFWC";
-    private static final int[] NO_VARIABLES = {-1, 8, 9, 100, Integer.MIN_VALUE, Integer.MAX_VALUE};
-
+public final class PromisesTest extends Calls {
     public static void main(String[] args) {
         newObject();
         type();
@@ -41,71 +32,6 @@ public final class PromisesTest {
         Due.end();
     }
 
-    // Helpers
-
-    private static void due(String call, long got, long want) {
-        Due.due(call, got, want);
-    }
-
-    /** Types by eights, as types takes them. */
-    private static void write(FlowEquations x, String text) {
-        for (int from = 0; from < text.length(); from += 8) {
-            String some = text.substring(from, Math.min(text.length(), from + 8));
-            x.types(eight(some));
-        }
-    }
-
-    private static long eight(String text) {
-        long number = 0;
-        for (int i = 0; i < text.length(); i++) {
-            number = number << 8 | text.charAt(i);
-        }
-        return number;
-    }
-
-    private static int define(FlowEquations x, char name, String text) {
-        write(x, text);
-        return x.define(name - 'a');
-    }
-
-    /** Each text is a name, a colon and an equation; behind an @ stands the name its clock is ON. */
-    private static FlowEquations make(String... texts) {
-        FlowEquations x = new FlowEquations();
-        for (String text : texts) {
-            char name = text.charAt(0);
-            int at = text.indexOf('@');
-            String equation = at < 0 ? text.substring(2) : text.substring(2, at);
-            if (define(x, name, equation) < 0) {
-                due("define of " + text, -1, 1);
-            }
-            if (at >= 0) {
-                due("clock of " + text, x.clock(name - 'a', text.charAt(at + 1) - 'a'), DONE);
-            }
-        }
-        return x;
-    }
-
-    private static FlowEquations ready(String... texts) {
-        FlowEquations x = make(texts);
-        due("check of " + String.join(" ", texts), x.check(), texts.length);
-        return x;
-    }
-
-    /** The values of a variable at the instants from the first; null stands for NONE. */
-    private static void flow(FlowEquations x, char name, Integer... values) {
-        x.check();
-        for (int i = 0; i < values.length; i++) {
-            x.step(1);
-            due("value of " + name + " at instant " + (i + 1), x.value(name - 'a'), values[i] == null ? NONE : values[i]);
-        }
-    }
-
-    private static void infos(String when, FlowEquations x, long... wanted) {
-        for (int what = 0; what < wanted.length; what++) {
-            due(when + ": info(" + what + ")", x.info(what), wanted[what]);
-        }
-    }
-
     // Promise 1
 
     private static void newObject() {
@@ -136,18 +62,16 @@ public final class PromisesTest {
             due("type " + CHARACTERS.charAt(i), x.type(CHARACTERS.charAt(i)), 1);
             due("type it again", x.type(CHARACTERS.charAt(i)), 2);
         }
-        FlowEquations x = new FlowEquations();
-        int length = 0;
         for (int c = -70000; c < 140000; c++) {
             if (c < 0 || CHARACTERS.indexOf(c) < 0) {
-                due("type of code " + c, x.type(c), REFUSED);
+                due("type of code " + c, new FlowEquations().type(c), REFUSED);
             }
         }
+        FlowEquations x = new FlowEquations();
         due("type of the least", x.type(Integer.MIN_VALUE), REFUSED);
         due("type of the greatest", x.type(Integer.MAX_VALUE), REFUSED);
         due("length after refusals", x.info(0), 0);
-        for (int i = 0; i < 24; i++) {
-            length++;
+        for (int length = 1; length <= 24; length++) {
             due("type", x.type('1'), length);
         }
         due("type to a full line", x.type('1'), FULL);
@@ -197,15 +121,6 @@ public final class PromisesTest {
             FlowEquations x = new FlowEquations();
             due("define of " + lines[i], define(x, 'c', lines[i]), depths[i]);
         }
-    }
-
-    private static void badPlace(String line, int place) {
-        FlowEquations x = new FlowEquations();
-        write(x, line);
-        due("define of " + line, x.define(7), SYNTAX);
-        due("bad place of " + line, x.info(1), place);
-        due("line after " + line, x.info(0), 0);
-        due("equations after " + line, x.info(2), 0);
     }
 
     private static void defineBadPlace() {
@@ -374,14 +289,6 @@ public final class PromisesTest {
 
     // Promise 8
 
-    private static void fault(int want, String... texts) {
-        FlowEquations x = make(texts);
-        due("check of " + String.join(" ", texts), x.check(), want);
-        due("ready", x.info(3), 0);
-        due("step", x.step(1), STATE);
-        due("value", x.value(texts[0].charAt(0) - 'a'), NONE);
-    }
-
     private static void checkMissing() {
         fault(-101, "a:b");
         fault(-107, "a:+1Ph");
@@ -505,14 +412,6 @@ public final class PromisesTest {
     }
 
     // The values of terms
-
-    private static void term(String equation, int p, int q, long want) {
-        FlowEquations x = ready("h:" + equation);
-        x.input(0, p);
-        x.input(1, q);
-        x.step(1);
-        due("value of " + equation + " at p = " + p + ", q = " + q, x.value(7), want);
-    }
 
     private static void operators() {
         int least = Integer.MIN_VALUE;
