@@ -1,4 +1,7 @@
-/** Every line and every program of a small size, on the class and on the model. */
+/**
+ * Every short line made of a few signs, behind some beginnings, and every program of three variables
+ * made of a few equations, on the class and on the model.
+ */
 public final class SmallWorldsTest extends Calls {
     private static final String SIGNS = "1ap+!?PWC";
     private static final String[] EQUATIONS = {null, "1", "p", "a", "b", "Pc", "Cb1", "W1a", "Cac"};
