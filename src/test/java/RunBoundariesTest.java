@@ -21,6 +21,7 @@ public final class RunBoundariesTest extends Calls {
         currentOfCurrent();
         countsByItself();
         countsOnItsOwnClock();
+        clockOfWhatStandsInAW();
         readyAfterACheck();
         readyUntilDefineDropOrClock();
         noInstantHasBeenThen();
@@ -324,6 +325,37 @@ public final class RunBoundariesTest extends Calls {
         memories(ready("a:F0!Pa", "b:F1+1Pb", "c:PWba@a"), 'c', 0, 0, 2, 2, 4, 4);
         memories(ready("a:F0!Pa", "b:!a", "c:F1+1Pc", "d:WCbWcba@a"), 'd', 1, 1, 1, 3, 3, 5);
         flow(ready("a:F0!Pa", "b:!a", "c:F1+1Pc", "d:WCbWcba@a"), 'd', null, 1, null, 3, null, 5);
+    }
+
+    private static void clockOfWhatStandsInAW() {
+        sentence("To FIT a CLOCK k: .. W t c if k is ON c and t FITS the CLOCK of c .. the value of a TERM that FITS an ACTIVE CLOCK k");
+        // b's clock is ON a and that of c, d, e, f is ON b: what stands in their Ws goes by the clock
+        // ON a, neither by the BASE nor by their own; f's P, which stands in no W, by its own.
+        FlowEquations x = ready("a:p", "b:Wqa@a", "c:WPWrab@b", "d:WF7Wrab@b", "e:WChWWrahb@b", "f:PWWrab@b", "h:Wsa@a");
+        long[][] rows = {
+            // p, q, r, s, then c, d, e, f
+            {0, 1, 1, 1, NONE, NONE, NONE, NONE}, {1, 0, 2, 1, NONE, NONE, NONE, NONE}, {0, 1, 3, 1, NONE, NONE, NONE, NONE},
+            {1, 1, 4, 0, 2, 4, 2, 0}, {1, 0, 5, 0, NONE, NONE, NONE, NONE}, {2, 5, 6, 3, 5, 6, 6, 4},
+            {0, 1, 7, 1, NONE, NONE, NONE, NONE}, {1, 1, 8, 0, 6, 8, 6, 6}};
+        valuesByInputs(x, rows);
+        due("P in a W", x.memory(2, 1), 8);
+        due("C in a W", x.memory(4, 1), 6);
+        due("P in no W", x.memory(5, 0), 8);
+        x.check();
+        valuesByInputs(x, new long[][] {{0, 1, 1, 1, NONE, NONE, NONE, NONE}, {1, 1, 2, 0, 0, 7, 0, 0}, {1, 1, 3, 0, 2, 3, 0, 2}});
+    }
+
+    /** A row is what the four inputs become, and then the values of c, d, e and f. */
+    private static void valuesByInputs(FlowEquations x, long[][] rows) {
+        for (long[] row : rows) {
+            for (int k = 0; k < 4; k++) {
+                x.input(k, (int) row[k]);
+            }
+            x.step(1);
+            for (int v = 2; v < 6; v++) {
+                due("value(" + v + ") at instant " + x.info(4), x.value(v), row[v + 2]);
+            }
+        }
     }
 
     // READY
